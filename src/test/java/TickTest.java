@@ -1,0 +1,316 @@
+/** The five steps of a tick, at the edges of their times; the answers are worked out by hand. */
+public final class TickTest {
+    public static void main(String[] args) {
+        expiry();
+        expiryOfWhatIsOwed();
+        silence();
+        helloThatSaysNotHeard();
+        becomingFull();
+        gapBetweenDescriptions();
+        refresh();
+        sendingAgain();
+        lostAck();
+        oneLinkATick();
+        sameFromBothSides();
+        ackForAnOlderOne();
+        ownDescriptionFromBefore();
+        ownDescriptionComesBackTwice();
+        updateToOneThatIsOff();
+        Check.end();
+    }
+
+    private static void ticks(LinkStateNet net, int n) {
+        PromisesTest.ticks(net, n);
+    }
+
+    private static void expiry() {
+        Check.part("step 1");
+        LinkStateNet net = PromisesTest.pair(1, 4);
+        net.power(0, false);
+        ticks(net, 39);
+        Check.due("39 ticks old", net.age(1, 0), 39);
+        ticks(net, 1);
+        Check.due("40 ticks old", net.age(1, 0), -1);
+        Check.due("number", net.number(1, 0), 0);
+    }
+
+    /** Router 2 comes to 1 late, and the update with the description of 0 to it is lost. */
+    private static void expiryOfWhatIsOwed() {
+        Check.part("step 1, owed");
+        LinkStateNet net = PromisesTest.pair(1, 4);
+        net.power(0, false);
+        ticks(net, 34);
+        net.link(1, 2, 1);
+        ticks(net, 3);
+        net.lose(1, 2, 2);
+        ticks(net, 1);
+        Check.due("1 owes 2 its own and that of 0", net.owed(1, 2), 2);
+        ticks(net, 1);
+        Check.due("a tick later too", net.owed(1, 2), 2);
+        ticks(net, 1);
+        Check.due("that of 0 is owed no more", net.owed(1, 2), 1);
+        ticks(net, 1);
+        Check.due("its own is sent again after 3 ticks", net.owed(1, 2), 0);
+        Check.due("that of 0 never came", net.number(2, 0), 0);
+        Check.due("that of 1 did", net.listed(2, 1, 2), 1);
+    }
+
+    private static void silence() {
+        Check.part("step 3, silence");
+        LinkStateNet net = PromisesTest.pair(1, 4);
+        net.power(0, false);
+        ticks(net, 4);
+        Check.due("heard 4 ticks ago", net.neighbour(1, 0), 2);
+        Check.due("listed", net.listed(1, 1, 0), 1);
+        ticks(net, 1);
+        Check.due("heard 5 ticks ago", net.neighbour(1, 0), 0);
+        Check.due("not listed", net.listed(1, 1, 0), 0);
+    }
+
+    private static void helloThatSaysNotHeard() {
+        Check.part("step 2");
+        LinkStateNet net = PromisesTest.pair(1, 4);
+        net.power(0, false);
+        net.power(0, true);
+        ticks(net, 1);
+        Check.due("no hello yet", net.neighbour(1, 0), 2);
+        ticks(net, 1);
+        Check.due("0 said that it did not hear 1", net.neighbour(1, 0), 1);
+        Check.due("1 said that it heard 0", net.neighbour(0, 1), 2);
+    }
+
+    /** As before; the times are told from the start of the object. */
+    private static void becomingFull() {
+        Check.part("step 3, becoming full");
+        LinkStateNet net = PromisesTest.pair(1, 4);
+        net.power(0, false);
+        net.power(0, true);
+        ticks(net, 2);
+        Check.due("6: the number 1 of 0 is less new than the number 2 at 1", net.owed(0, 1), 0);
+        Check.due("6: 0 is not full to 1", net.owed(1, 0), 0);
+        int acks = net.count(3);
+        int updates = net.count(1);
+        ticks(net, 1);
+        Check.due("7: 0 makes number 2", net.number(0, 0), 2);
+        Check.due("7: and sends it", net.count(1), updates + 1);
+        Check.due("7: but is not full to 1, so nothing happens", net.count(3), acks);
+        Check.due("7: still owed", net.owed(0, 1), 1);
+        ticks(net, 1);
+        Check.due("8: full to both", net.neighbour(1, 0), 2);
+        Check.due("8: what is owed stays as it was sent last", net.owed(0, 1), 1);
+        Check.due("8: 1 sent its own", net.number(0, 1), 4);
+        Check.due("8: only that", net.count(1), updates + 2);
+        ticks(net, 1);
+        Check.due("9: 1 holds the old number 2", net.age(1, 0), 5);
+        ticks(net, 1);
+        Check.due("10: the later birth is newer", net.age(1, 0), 3);
+        Check.due("10: with the same number", net.number(1, 0), 2);
+        Check.due("10: acknowledged", net.owed(0, 1), 0);
+    }
+
+    private static void gapBetweenDescriptions() {
+        Check.part("step 4, gap");
+        LinkStateNet net = PromisesTest.pair(1, 4);
+        net.stub(0, 0, 0, 0, 1);
+        ticks(net, 1);
+        Check.due("a tick after the last one", net.number(0, 0), 2);
+        ticks(net, 1);
+        Check.due("two ticks after it", net.number(0, 0), 3);
+        ticks(net, 1);
+        net.stub(0, 0, 0, 0, 2);
+        net.stub(0, 0, 0, 0, 1);
+        ticks(net, 4);
+        Check.due("changed and changed back", net.number(0, 0), 3);
+    }
+
+    private static void refresh() {
+        Check.part("step 4, refresh");
+        LinkStateNet net = PromisesTest.pair(1, 4);
+        ticks(net, 16);
+        Check.due("one alone, 19 ticks old", net.number(2, 2), 1);
+        ticks(net, 1);
+        Check.due("one alone, 20 ticks old", net.number(2, 2), 2);
+        ticks(net, 2);
+        Check.due("19 ticks old", net.number(0, 0), 2);
+        ticks(net, 1);
+        Check.due("20 ticks old", net.number(0, 0), 3);
+        Check.due("and sent", net.number(1, 0), 3);
+        Check.due("with its birth", net.age(1, 0), 0);
+    }
+
+    private static void sendingAgain() {
+        Check.part("step 5, sending again");
+        LinkStateNet net = PromisesTest.pair(1, 4);
+        ticks(net, 2);
+        net.stub(0, 0, 0, 0, 1);
+        net.lose(0, 1, 1);
+        ticks(net, 1);
+        Check.due("7: sent", net.count(1), 3);
+        Check.due("7: lost", net.count(4), 1);
+        ticks(net, 2);
+        Check.due("9: not again", net.count(1), 3);
+        Check.due("9: so 1 holds the old one", net.number(1, 0), 2);
+        ticks(net, 1);
+        Check.due("10: again", net.count(1), 4);
+        Check.due("10: 1 holds the new one", net.number(1, 0), 3);
+        Check.due("10: descriptions in updates", net.count(2), 4);
+    }
+
+    private static void lostAck() {
+        Check.part("step 5, a lost ack");
+        LinkStateNet net = PromisesTest.pair(1, 4);
+        ticks(net, 2);
+        net.stub(0, 0, 0, 0, 1);
+        net.lose(1, 0, 1);
+        ticks(net, 1);
+        Check.due("7: it came", net.number(1, 0), 3);
+        Check.due("7: its ack was sent", net.count(3), 3);
+        Check.due("7: and lost", net.count(4), 1);
+        Check.due("7: so it is owed", net.owed(0, 1), 1);
+        Check.due("7: installed", net.count(6), 3);
+        ticks(net, 3);
+        Check.due("10: acknowledged again", net.count(3), 4);
+        Check.due("10: not owed", net.owed(0, 1), 0);
+        Check.due("10: not installed again", net.count(6), 3);
+    }
+
+    /** Routers in a row: what is sent on is as it was before the step, also in rising order. */
+    private static void oneLinkATick() {
+        Check.part("step 5, one link a tick");
+        LinkStateNet net = new LinkStateNet();
+        for (int r = 0; r < 4; r++) {
+            net.link(r, r + 1, 1);
+        }
+        ticks(net, 12);
+        int number = net.number(0, 0);
+        net.stub(0, 0, 0, 0, 1);
+        for (int tick = 1; tick <= 4; tick++) {
+            ticks(net, 1);
+            for (int r = 1; r < 5; r++) {
+                int due = r <= tick ? number + 1 : number;
+                Check.due("router " + r + " after " + tick, net.number(r, 0), due);
+            }
+        }
+        Check.due("five second descriptions and this one came to four each", net.count(6), 5 * 4 + 4);
+    }
+
+    private static void sameFromBothSides() {
+        Check.part("step 5, case (c)");
+        LinkStateNet net = new LinkStateNet();
+        net.link(0, 1, 1);
+        net.link(1, 2, 1);
+        net.link(0, 2, 1);
+        ticks(net, 10);
+        int updates = net.count(1);
+        int acks = net.count(3);
+        int installed = net.count(6);
+        net.stub(0, 0, 0, 0, 1);
+        ticks(net, 1);
+        Check.due("two updates", net.count(1), updates + 2);
+        Check.due("1 owes it to 2", net.owed(1, 2), 1);
+        Check.due("2 owes it to 1", net.owed(2, 1), 1);
+        Check.due("1 does not owe it to 0", net.owed(1, 0), 0);
+        ticks(net, 1);
+        Check.due("two more that cross", net.count(1), updates + 4);
+        Check.due("all acknowledged", net.count(3), acks + 4);
+        Check.due("none owed by 1", net.owed(1, 2), 0);
+        Check.due("none owed by 2", net.owed(2, 1), 0);
+        Check.due("installed twice", net.count(6), installed + 2);
+        net.stub(0, 0, 0, 0, 2);
+        net.lose(2, 1, 9);
+        ticks(net, 2);
+        Check.due("the ack of 2 is lost, its update too", net.owed(1, 2), 1);
+        Check.due("but what it got from 1 it does not owe to 1", net.owed(2, 1), 0);
+    }
+
+    /** While 3 acknowledges a description of 0, router 2 has got a newer one already. */
+    private static void ackForAnOlderOne() {
+        Check.part("step 5, an ack for an older one");
+        LinkStateNet net = new LinkStateNet();
+        net.link(0, 2, 1);
+        ticks(net, 6);
+        net.link(2, 3, 1);
+        ticks(net, 3);
+        net.stub(0, 0, 0, 0, 1);
+        ticks(net, 1);
+        Check.due("2 and 3 are full", net.neighbour(2, 3), 2);
+        Check.due("2 holds the newer one", net.number(2, 0), 3);
+        Check.due("3 holds the older one", net.number(3, 0), 2);
+        Check.due("2 owes the newer one", net.owed(2, 3), 1);
+        ticks(net, 1);
+        Check.due("3 holds the newer one", net.number(3, 0), 3);
+        Check.due("2 owes none", net.owed(2, 3), 0);
+    }
+
+    private static LinkStateNet pairWithNumberFour(int r) {
+        LinkStateNet net = PromisesTest.pair(1, 4);
+        net.stub(r, 0, 0, 0, 1);
+        ticks(net, 2);
+        net.stub(r, 0, 0, 0, 2);
+        ticks(net, 2);
+        net.power(r, false);
+        ticks(net, 6);
+        net.power(r, true);
+        ticks(net, 1);
+        return net;
+    }
+
+    private static void ownDescriptionFromBefore() {
+        Check.part("step 5, cases (a) and (d)");
+        LinkStateNet net = pairWithNumberFour(0);
+        Check.due("15: a new start", net.number(0, 0), 1);
+        Check.due("15: 1 holds the one from before", net.number(1, 0), 4);
+        Check.due("15: which lists 1", net.listed(1, 0, 1), 1);
+        Check.due("15: but 1 does not list 0", net.distance(1, 0), -1);
+        ticks(net, 3);
+        Check.due("18: full", net.neighbour(0, 1), 2);
+        Check.due("18: 0 lists 1", net.number(0, 0), 2);
+        Check.due("18: 1 does not take that", net.number(1, 0), 4);
+        Check.due("18: nor acknowledge it", net.owed(0, 1), 1);
+        Check.due("18: but 0 acknowledges the one from before", net.owed(1, 0), 0);
+        Check.due("18: it does not hold it", net.number(0, 0), 2);
+        Check.due("18: the one from before makes the edge", net.distance(1, 0), 1);
+        ticks(net, 1);
+        Check.due("19: too early for a new one", net.number(0, 0), 2);
+        ticks(net, 1);
+        Check.due("20: pressed, it makes a newer one", net.number(0, 0), 5);
+        Check.due("20: which 1 takes", net.number(1, 0), 5);
+        Check.due("20: and acknowledges", net.owed(0, 1), 0);
+        Check.due("20: and holds", net.age(1, 0), 0);
+        ticks(net, 4);
+        Check.due("24: it is pressed no more", net.number(0, 0), 5);
+    }
+
+    /** Now the lower router holds the one from before, so its update is the first to arrive. */
+    private static void ownDescriptionComesBackTwice() {
+        Check.part("step 5, case (d) of one not owed");
+        LinkStateNet net = pairWithNumberFour(1);
+        ticks(net, 3);
+        Check.due("18: 1 made number 2", net.number(1, 1), 2);
+        Check.due("18: 0 owes its newer one again", net.owed(0, 1), 1);
+        int updates = net.count(1);
+        int acks = net.count(3);
+        ticks(net, 1);
+        Check.due("19: never sent, so it is sent now", net.count(1), updates + 1);
+        Check.due("19: and acknowledged", net.count(3), acks + 1);
+        Check.due("19: not owed", net.owed(0, 1), 0);
+        ticks(net, 1);
+        Check.due("20: pressed", net.number(1, 1), 5);
+        Check.due("20: taken", net.number(0, 1), 5);
+    }
+
+    private static void updateToOneThatIsOff() {
+        Check.part("step 5, to one that is off");
+        LinkStateNet net = PromisesTest.pair(1, 4);
+        net.power(1, false);
+        net.stub(0, 0, 0, 0, 1);
+        ticks(net, 2);
+        Check.due("6: the hello and the update are lost", net.count(4), 2);
+        Check.due("6: owed", net.owed(0, 1), 1);
+        ticks(net, 2);
+        Check.due("8: full, but not sent again yet", net.count(1), 3);
+        ticks(net, 1);
+        Check.due("9: not full", net.owed(0, 1), 0);
+        Check.due("9: nothing sent", net.count(1), 3);
+    }
+}
