@@ -143,8 +143,9 @@ public final class PromisesTest {
 
     private static void stub() {
         Check.part("promise 3");
-        LinkStateNet net = new LinkStateNet();
+        LinkStateNet net;
         for (int length = 0; length <= 8; length++) {
+            net = new LinkStateNet();
             for (int value = 0; value <= 255; value++) {
                 boolean prefix = value % (1 << (8 - length)) == 0;
                 Check.due("stub " + value + "/" + length, net.stub(4, 1, value, length, 9), prefix);
@@ -355,7 +356,9 @@ public final class PromisesTest {
 
     private static void owed() {
         Check.part("promise 11");
-        LinkStateNet net = pair(1, 4);
+        LinkStateNet net = pair(1, 0);
+        Check.due("nothing at first", net.owed(0, 1), 0);
+        ticks(net, 4);
         for (int wrong : NO_ROUTERS) {
             Check.due("debtor " + wrong, net.owed(wrong, 0), -1);
             Check.due("creditor " + wrong, net.owed(0, wrong), -1);

@@ -6,6 +6,8 @@ public final class TickTest {
         silence();
         helloThatSaysNotHeard();
         becomingFull();
+        fullToOneThatForgot();
+        notFullNotOwed();
         gapBetweenDescriptions();
         refresh();
         sendingAgain();
@@ -15,6 +17,7 @@ public final class TickTest {
         ackForAnOlderOne();
         ownDescriptionFromBefore();
         ownDescriptionComesBackTwice();
+        ackForSomeOfAnUpdate();
         updateToOneThatIsOff();
         Check.end();
     }
@@ -106,6 +109,43 @@ public final class TickTest {
         Check.due("10: the later birth is newer", net.age(1, 0), 3);
         Check.due("10: with the same number", net.number(1, 0), 2);
         Check.due("10: acknowledged", net.owed(0, 1), 0);
+    }
+
+    /** Router 1 was off and on between two hellos, and 0 did not get to know of it. */
+    private static void fullToOneThatForgot() {
+        Check.part("step 3, full to one that forgot");
+        LinkStateNet net = PromisesTest.pair(1, 4);
+        net.power(1, false);
+        net.power(1, true);
+        net.lose(1, 0, 1);
+        ticks(net, 1);
+        Check.due("5: 1 holds its own alone", net.number(1, 0), 0);
+        Check.due("5: 0 owes it nothing", net.owed(0, 1), 0);
+        ticks(net, 1);
+        Check.due("6: 1 is full to 0, as it was", net.neighbour(0, 1), 2);
+        Check.due("6: 0 has become full to 1", net.neighbour(1, 0), 2);
+        Check.due("6: so 0 owed what 1 lacks, and sent it", net.number(1, 0), 2);
+        ticks(net, 1);
+        Check.due("7: its own from before too", net.number(1, 1), 3);
+        Check.due("7: which is taken by 0", net.number(0, 1), 3);
+    }
+
+    /** Router 0 owes 1 a description of 2, so no new one of its own takes its place. */
+    private static void notFullNotOwed() {
+        Check.part("step 3, not full");
+        LinkStateNet net = new LinkStateNet();
+        net.link(0, 1, 1);
+        net.link(0, 2, 1);
+        ticks(net, 6);
+        net.power(1, false);
+        net.stub(2, 0, 0, 0, 1);
+        ticks(net, 1);
+        Check.due("7: owed", net.owed(0, 1), 1);
+        ticks(net, 3);
+        Check.due("10: still owed", net.owed(0, 1), 1);
+        ticks(net, 1);
+        Check.due("11: 1 is silent", net.neighbour(0, 1), 0);
+        Check.due("11: not owed", net.owed(0, 1), 0);
     }
 
     private static void gapBetweenDescriptions() {
@@ -262,8 +302,11 @@ public final class TickTest {
         Check.due("15: 1 holds the one from before", net.number(1, 0), 4);
         Check.due("15: which lists 1", net.listed(1, 0, 1), 1);
         Check.due("15: but 1 does not list 0", net.distance(1, 0), -1);
-        ticks(net, 3);
+        ticks(net, 2);
+        int acks = net.count(3);
+        ticks(net, 1);
         Check.due("18: full", net.neighbour(0, 1), 2);
+        Check.due("18: no ack for case (d) alone", net.count(3), acks + 1);
         Check.due("18: 0 lists 1", net.number(0, 0), 2);
         Check.due("18: 1 does not take that", net.number(1, 0), 4);
         Check.due("18: nor acknowledge it", net.owed(0, 1), 1);
@@ -297,6 +340,28 @@ public final class TickTest {
         ticks(net, 1);
         Check.due("20: pressed", net.number(1, 1), 5);
         Check.due("20: taken", net.number(0, 1), 5);
+    }
+
+    /** Router 0 comes back with a new neighbour 2; of its update 1 takes that of 2, but not that of 0. */
+    private static void ackForSomeOfAnUpdate() {
+        Check.part("step 5, an ack for some of an update");
+        LinkStateNet net = pairWithNumberFour(0);
+        net.link(0, 2, 1);
+        net.lose(0, 1, 1);
+        net.lose(1, 0, 1);
+        ticks(net, 4);
+        Check.due("19: 0 and 2 are full", net.neighbour(0, 2), 2);
+        Check.due("19: 0 and 1 are not", net.neighbour(0, 1), 1);
+        int updates = net.count(1);
+        int descriptions = net.count(2);
+        ticks(net, 1);
+        Check.due("20: 0 and 1 are full", net.neighbour(0, 1), 2);
+        Check.due("20: updates from 0 to 1 and 2, and from 1 to 0", net.count(1), updates + 3);
+        Check.due("20: of two, one and two", net.count(2), descriptions + 5);
+        Check.due("20: 1 takes that of 2", net.listed(1, 2, 0), 1);
+        Check.due("20: it holds a newer one of 0", net.number(1, 0), 4);
+        Check.due("20: so that is owed still", net.owed(0, 1), 1);
+        Check.due("20: 0 acknowledges both", net.owed(1, 0), 0);
     }
 
     private static void updateToOneThatIsOff() {
