@@ -2,7 +2,9 @@
 public final class TickTest {
     public static void main(String[] args) {
         expiry();
+        expiryAtEachRouter();
         expiryOfWhatIsOwed();
+        expiryOfWhatIsOwedToEach();
         silence();
         helloThatSaysNotHeard();
         becomingFull();
@@ -15,10 +17,16 @@ public final class TickTest {
         oneLinkATick();
         sameFromBothSides();
         ackForAnOlderOne();
+        ackForOneWithAnEarlierBirth();
         ownDescriptionFromBefore();
         ownDescriptionComesBackTwice();
         ackForSomeOfAnUpdate();
         updateToOneThatIsOff();
+        silenceByLosses();
+        noHellosFromOneThatIsOff();
+        arrivalInRisingOrder();
+        numberThatIsNotGreater();
+        owedAlreadyStaysAsItWasSent();
         Check.end();
     }
 
@@ -35,6 +43,29 @@ public final class TickTest {
         ticks(net, 1);
         Check.due("40 ticks old", net.age(1, 0), -1);
         Check.due("number", net.number(1, 0), 0);
+    }
+
+    private static void expiryAtEachRouter() {
+        Check.part("step 1, held by no one");
+        for (int gone = 0; gone < 5; gone++) {
+            LinkStateNet net = new LinkStateNet();
+            for (int r = 0; r < 5; r++) {
+                if (r != gone) {
+                    net.link(gone, r, 1);
+                }
+            }
+            ticks(net, 5);
+            net.power(gone, false);
+            ticks(net, 38);
+            for (int r = 0; r < 5; r++) {
+                Check.due("39 ticks old, " + gone + " at " + r, net.age(r, gone), r == gone ? -1 : 39);
+            }
+            ticks(net, 1);
+            for (int r = 0; r < 5; r++) {
+                Check.due("40 ticks old, " + gone + " at " + r, net.age(r, gone), -1);
+                Check.due("its own, at " + r, net.age(r, r) >= 0, r != gone);
+            }
+        }
     }
 
     /** Router 2 comes to 1 late, and the update with the description of 0 to it is lost. */
@@ -56,6 +87,27 @@ public final class TickTest {
         Check.due("its own is sent again after 3 ticks", net.owed(1, 2), 0);
         Check.due("that of 0 never came", net.number(2, 0), 0);
         Check.due("that of 1 did", net.listed(2, 1, 2), 1);
+    }
+
+    /** As before, with other routers: that of 'gone' is owed by 'debtor' to 'late'. */
+    private static void expiryOfWhatIsOwedToEach() {
+        Check.part("step 1, owed by no one");
+        for (int late = 0; late < 5; late++) {
+            int debtor = (late + 1) % 5;
+            int gone = (late + 2) % 5;
+            LinkStateNet net = new LinkStateNet();
+            net.link(gone, debtor, 1);
+            ticks(net, 4);
+            net.power(gone, false);
+            ticks(net, 34);
+            net.link(debtor, late, 1);
+            ticks(net, 3);
+            net.lose(debtor, late, 2);
+            ticks(net, 2);
+            Check.due("owed to " + late, net.owed(debtor, late), 2);
+            ticks(net, 1);
+            Check.due("owed no more to " + late, net.owed(debtor, late), 1);
+        }
     }
 
     private static void silence() {
@@ -282,7 +334,32 @@ public final class TickTest {
         Check.due("2 owes none", net.owed(2, 3), 0);
     }
 
-    private static LinkStateNet pairWithNumberFour(int r) {
+    /** As before, but the newer one has the same number: router 0 began anew without its link. */
+    private static void ackForOneWithAnEarlierBirth() {
+        Check.part("step 5, an ack for one with an earlier birth");
+        LinkStateNet net = new LinkStateNet();
+        net.link(0, 2, 1);
+        ticks(net, 4);
+        net.link(0, 2, 0);
+        net.power(0, false);
+        net.power(0, true);
+        net.link(0, 2, 1);
+        net.link(2, 3, 1);
+        ticks(net, 2);
+        net.stub(0, 0, 0, 0, 1);
+        ticks(net, 1);
+        Check.due("7: 0 holds number 2", net.number(0, 0), 2);
+        Check.due("7: 2 holds another number 2", net.age(2, 0), 3);
+        ticks(net, 1);
+        Check.due("8: 2 holds the later one", net.age(2, 0), 1);
+        Check.due("8: 3 holds the earlier one", net.age(3, 0), 4);
+        Check.due("8: 2 owes the later one", net.owed(2, 3), 1);
+        ticks(net, 1);
+        Check.due("9: 3 holds the later one", net.age(3, 0), 2);
+        Check.due("9: with the same number", net.number(3, 0), 2);
+    }
+
+    static LinkStateNet pairWithNumberFour(int r) {
         LinkStateNet net = PromisesTest.pair(1, 4);
         net.stub(r, 0, 0, 0, 1);
         ticks(net, 2);
@@ -377,5 +454,118 @@ public final class TickTest {
         ticks(net, 1);
         Check.due("9: not full", net.owed(0, 1), 0);
         Check.due("9: nothing sent", net.count(1), 3);
+    }
+
+    /** Both hellos of 0 after tick 4 are lost, then they arrive again. */
+    private static void silenceByLosses() {
+        Check.part("step 3, not heard nor mutual");
+        LinkStateNet net = PromisesTest.pair(1, 4);
+        net.lose(0, 1, 2);
+        ticks(net, 4);
+        Check.due("8: heard last at 4", net.neighbour(1, 0), 2);
+        Check.due("8: so 1 is full to 0", net.neighbour(0, 1), 2);
+        ticks(net, 1);
+        Check.due("9: heard last at 4", net.neighbour(1, 0), 0);
+        Check.due("9: 0 does not know of it yet", net.neighbour(0, 1), 2);
+        ticks(net, 1);
+        Check.due("10: 0 says that it hears 1", net.neighbour(1, 0), 2);
+        Check.due("10: 1 says that it did not hear 0", net.neighbour(0, 1), 1);
+        ticks(net, 2);
+        Check.due("12: full again", net.neighbour(0, 1), 2);
+        net = PromisesTest.pair(1, 4);
+        net.lose(0, 1, 1);
+        ticks(net, 8);
+        Check.due("one lost hello does no harm", net.neighbour(1, 0), 2);
+        Check.due("nor needs another description", net.number(1, 1), 2);
+    }
+
+    private static void noHellosFromOneThatIsOff() {
+        Check.part("step 2, every router that is on");
+        LinkStateNet net = PromisesTest.pair(1, 0);
+        net.power(1, false);
+        ticks(net, 2);
+        Check.due("only 0 sends one", net.count(0), 1);
+        Check.due("1 hears nothing", net.neighbour(1, 0), 0);
+        Check.due("0 hears nothing", net.neighbour(0, 1), 0);
+        net.power(0, false);
+        ticks(net, 2);
+        Check.due("none sends one", net.count(0), 1);
+    }
+
+    /** Of the origin 4 router 0 holds number 2 and router 1 number 3, when both become full to 2. */
+    private static void arrivalInRisingOrder() {
+        Check.part("step 5, they arrive in the same order");
+        LinkStateNet net = new LinkStateNet();
+        net.link(0, 4, 1);
+        net.link(1, 4, 1);
+        ticks(net, 6);
+        net.link(0, 4, 0);
+        net.link(0, 2, 1);
+        net.link(1, 2, 1);
+        ticks(net, 3);
+        Check.due("9: at 0", net.number(0, 4), 2);
+        Check.due("9: at 1", net.number(1, 4), 3);
+        int installed = net.count(6);
+        ticks(net, 1);
+        Check.due("10: 2 installs three from 0, then two newer ones from 1; 0, 1 and 4 one each",
+            net.count(6), installed + 3 + 2 + 3);
+        Check.due("10: 2 holds the newer one", net.number(2, 4), 3);
+        Check.due("10: which it owes to 0 with the newer one of 1", net.owed(2, 0), 2);
+        Check.due("10: to 1 it owes the newer one of 0", net.owed(2, 1), 1);
+    }
+
+    /** Of router 0, when it was put off, 1 held number 4 and 2 number 3: both are newer than its new one. */
+    private static void numberThatIsNotGreater() {
+        Check.part("step 5, case (a) with a number that is not greater");
+        LinkStateNet net = new LinkStateNet();
+        net.link(0, 1, 1);
+        net.link(0, 2, 1);
+        ticks(net, 6);
+        net.stub(0, 0, 0, 0, 1);
+        ticks(net, 2);
+        net.stub(0, 0, 0, 0, 2);
+        net.lose(0, 2, 9);
+        ticks(net, 1);
+        Check.due("9: at 1", net.number(1, 0), 4);
+        Check.due("9: at 2", net.number(2, 0), 3);
+        net.power(0, false);
+        ticks(net, 6);
+        net.lose(0, 2, 0);
+        net.power(0, true);
+        ticks(net, 3);
+        Check.due("18: full to 1", net.neighbour(1, 0), 2);
+        Check.due("18: full to 2", net.neighbour(2, 0), 2);
+        Check.due("18: number 2 of 0", net.number(0, 0), 2);
+        ticks(net, 2);
+        Check.due("20: number 4 came first, so 3 was not greater", net.number(0, 0), 5);
+        Check.due("20: newer than that at 1", net.age(1, 0), 0);
+        Check.due("20: newer than that at 2", net.age(2, 0), 0);
+    }
+
+    /** In tick 20 router 1 sends 0 its number 4 from before, which is lost; in tick 21 comes number 2 of 0. */
+    private static void owedAlreadyStaysAsItWasSent() {
+        Check.part("step 5, case (d) of one owed already");
+        LinkStateNet net = pairWithNumberFour(0);
+        ticks(net, 2);
+        net.lose(0, 1, 1);
+        ticks(net, 1);
+        Check.due("18: 1 is full to 0", net.neighbour(0, 1), 2);
+        Check.due("18: 0 is not full to 1", net.neighbour(1, 0), 1);
+        ticks(net, 1);
+        net.lose(1, 0, 2);
+        ticks(net, 1);
+        Check.due("20: full", net.neighbour(1, 0), 2);
+        Check.due("20: 1 owes 0 both", net.owed(1, 0), 2);
+        int updates = net.count(1);
+        ticks(net, 1);
+        Check.due("21: 0 sends its number 2 again", net.count(1), updates + 1);
+        Check.due("21: 1 owes 0 what it owed", net.owed(1, 0), 2);
+        ticks(net, 1);
+        Check.due("22: but sent last at 20", net.count(1), updates + 1);
+        ticks(net, 1);
+        Check.due("23: so sent again now", net.count(1), updates + 2);
+        Check.due("23: and acknowledged", net.owed(1, 0), 0);
+        ticks(net, 1);
+        Check.due("24: pressed", net.number(0, 0), 5);
     }
 }
